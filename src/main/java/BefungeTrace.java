@@ -112,7 +112,12 @@ public final class BefungeTrace {
     public int run() {
         resetRun();
         for (int step = 0; step < MOST_STEPS && howEnded == NO_RUN; step++) {
-            doStep();
+            stepsDone++;
+            int code = readCell(placeX, placeY);
+            workOff(code);
+            if (howEnded == NO_RUN) {
+                movePlace();
+            }
         }
         if (howEnded == NO_RUN) {
             howEnded = TIRED;
@@ -133,7 +138,7 @@ public final class BefungeTrace {
     }
 
     public int pile(int i) {
-        if (i < 0 || i >= pileHeight || i >= MOST_ON_PILE) {
+        if (i < 0 || i >= pileHeight) {
             return 0;
         }
         return pileNumbers[i];
@@ -144,7 +149,7 @@ public final class BefungeTrace {
     }
 
     public int output(int i) {
-        if (i < 0 || i >= outputCount || i >= MOST_IN_OUTPUT) {
+        if (i < 0 || i >= outputCount) {
             return 0;
         }
         return outputNumbers[i];
@@ -166,18 +171,12 @@ public final class BefungeTrace {
         return x >= 0 && x < COLUMNS && y >= 0 && y < ROWS;
     }
 
-    private static int cellIndex(int x, int y) {
-        return (x & COLUMN_MASK) + COLUMNS * (y & ROW_MASK);
-    }
-
     private int readCell(int x, int y) {
-        int index = cellIndex(x, y);
-        return cells[index];
+        return cells[(x & COLUMN_MASK) + COLUMNS * (y & ROW_MASK)];
     }
 
     private void writeCell(int x, int y, int code) {
-        int index = cellIndex(x, y);
-        cells[index] = code & CODE_MASK;
+        cells[(x & COLUMN_MASK) + COLUMNS * (y & ROW_MASK)] = code & CODE_MASK;
     }
 
     private void resetRun() {
@@ -188,15 +187,6 @@ public final class BefungeTrace {
         direction = RIGHT;
         stepsDone = 0;
         howEnded = NO_RUN;
-    }
-
-    private void doStep() {
-        stepsDone++;
-        int code = readCell(placeX, placeY);
-        workOff(code);
-        if (howEnded == NO_RUN) {
-            movePlace();
-        }
     }
 
     private void workOff(int code) {

@@ -31,7 +31,7 @@ public final class RunEndTest {
     private static void tiresOnTheWay(Check check) {
         for (int direction = 1; direction < 4; direction++) {
             BefungeTrace trace = Programs.loaded(0, 0, 0, 18 + direction);
-            // After four steps come 396, which are 4 more than whole rows and a whole number of columns.
+            // The turn is step 4: from there on, the place moves 397 times.
             int next = Programs.away(3, direction, 397);
             check.dueRun("tired in direction " + direction, trace, BefungeTrace.TIRED, 400, next + 32 * direction);
         }
