@@ -41,11 +41,7 @@ public final class CellsOutputTest {
         check.dueRun("a full output of zeros", zeros, BefungeTrace.FULL_OUTPUT, 17, 0);
         check.dueOutput("a full output of zeros", zeros, new int[16]);
 
-        // Seven in row 0, one at (7, 1), six in row 2, then (6, 3) and (6, 0) again on the way down.
-        BefungeTrace sixteen = Programs.loaded(25, 25, 25, 25, 25, 25, 25, 20);
-        Programs.load(sixteen, 6, 1, 29, 25);
-        Programs.load(sixteen, 0, 2, 25, 25, 25, 25, 25, 25, 20, 18);
-        sixteen.put(6, 3, 25);
+        BefungeTrace sixteen = Programs.outputsThenEnd(16);
         check.dueRun("sixteen outputs", sixteen, BefungeTrace.ENDED, 20, 6 + 8 + 64);
         check.dueOutput("sixteen outputs", sixteen, new int[16]);
     }

@@ -2,12 +2,31 @@
 final class Check {
     private int compared = 0;
     private int wrong = 0;
+    private int sentences = 0;
+    private String sentence = "";
+    private int comparedBefore = 0;
+
+    /** Names the sentence of the document, or the case of it, by which the answers that follow are due. */
+    void of(String words) {
+        closeSentence();
+        sentence = words;
+        sentences++;
+        comparedBefore = compared;
+    }
+
+    private void closeSentence() {
+        if (sentences > 0 && compared == comparedBefore) {
+            wrong++;
+            System.out.println("\"" + sentence + "\": no answer was looked at");
+        }
+    }
 
     void due(String call, long got, long want) {
         compared++;
         if (got != want) {
             wrong++;
-            System.out.println(call + " answered " + got + ", due is " + want);
+            String words = sentences == 0 ? "" : "\"" + sentence + "\": ";
+            System.out.println(words + call + " answered " + got + ", due is " + want);
         }
     }
 
@@ -46,7 +65,9 @@ final class Check {
     }
 
     void finish() {
-        System.out.println(compared + " answers looked at, " + wrong + " not as due");
+        closeSentence();
+        String by = sentences == 0 ? "" : " by " + sentences + " sentences";
+        System.out.println(compared + " answers looked at" + by + ", " + wrong + " not as due");
         if (wrong != 0 || compared == 0) {
             System.exit(1);
         }
